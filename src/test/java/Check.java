@@ -40,12 +40,23 @@ final class Check {
             body.getAsLong();
         } catch (RuntimeException e) {
             thrown = e.getClass();
+            if (isOfMachine(e)) {
+                fault(call + ": the machine threw " + e);
+            }
         }
         if (thrown != due) {
             wrong++;
             System.out.println(call + " threw " + thrown + ", due is " + due);
         }
         due(call + " leaves the digest", pool.digest(), before);
+    }
+
+    /** Whether HailPool did not throw this itself: it comes from the library, or bears the machine's own text. */
+    static boolean isOfMachine(RuntimeException e) {
+        StackTraceElement[] trace = e.getStackTrace();
+        boolean isOfPool = trace.length > 0 && trace[0].getClassName().startsWith("HailPool");
+        String text = String.valueOf(e.getMessage());
+        return !isOfPool || text.startsWith("Index ") || text.startsWith("Cannot ");
     }
 
     /** The call may not change the pool. */

@@ -162,6 +162,12 @@ public final class PoolTest {
         pool.endYear();
         Check.due("P14 20 more than the least", pool.grower(0, 4), 70);
         Check.due("P14 the factor without a policy", pool.grower(1, 4), 100);
+        pool.mend(0);
+        pool.insure(0, 499, 100000, 100);
+        pool.storm(0, 0, 0, 0, 0, 20, 1);
+        Check.due("P14 a single coin is claimed", pool.grower(0, 5), 1);
+        pool.endYear();
+        Check.due("P14 that counts", pool.grower(0, 4), 90);
     }
 
     private static void endYearDebts() {

@@ -11,11 +11,14 @@ public final class RandomRunsTest {
     private final HailPool pool = new HailPool();
     private final Model model = new Model();
     private final int wrongness;
+    private final boolean isPoor;
     private int faults;
 
     private RandomRunsTest(int seed) {
         random = new Random(seed);
         wrongness = seed % 3 == 0 ? 12 : 200;
+        // A poor pool can't pay all, so that the order of the payments and the debts show.
+        isPoor = seed % 2 == 0;
     }
 
     public static void main(String[] args) {
@@ -30,7 +33,7 @@ public final class RandomRunsTest {
             int op = call < 12 ? new int[] {0, 1, 3, 8, 9, 1}[call % 6] : random.nextInt(24);
             int[] a = numbers(op, call);
             String text = "run " + seed + ", call " + call + ", op " + op + " " + Arrays.toString(a);
-            compare(text, answer(() -> ofPool(op, a)), answer(() -> ofModel(op, a)));
+            compare(text, answer(() -> ofPool(op, a), true), answer(() -> ofModel(op, a), false));
             compare(text + ": digest", String.valueOf(pool.digest()), String.valueOf(model.digest()));
             compare(text + ": loss", String.valueOf(pool.loss()), String.valueOf(model.loss()));
         }
@@ -43,11 +46,12 @@ public final class RandomRunsTest {
         }
     }
 
-    private static String answer(LongSupplier call) {
+    private static String answer(LongSupplier call, boolean isPool) {
         try {
             return String.valueOf(call.getAsLong());
         } catch (RuntimeException e) {
-            return e.getClass().getName();
+            String who = isPool && Check.isOfMachine(e) ? "the machine's " : "";
+            return who + e.getClass().getName();
         }
     }
 
@@ -96,7 +100,7 @@ public final class RandomRunsTest {
             case 7:
                 return new int[] {from(0, 19), from(0, 19)};
             case 8:
-                return new int[] {small(1, 1000000)};
+                return new int[] {isPoor ? from(1, 400) : small(1, 1000000)};
             case 9:
                 return new int[] {small(0, 100000), small(1, 100000), from(1, 100)};
             case 10:

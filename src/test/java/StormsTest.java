@@ -296,6 +296,9 @@ public final class StormsTest {
         HailPool last = oneHouse(18, 19, 1, 1, 1, 10);
         last.insure(0, 0, 1000, 1);
         Check.due("P18 the last row", last.worst(0, 4), 19);
+        HailPool first = oneHouse(18, 0, 1, 1, 1, 10);
+        first.insure(0, 0, 1000, 1);
+        Check.due("P18 the first row", first.worst(5, 20), 0);
         int[][] wrong = {{-1, 1}, {6, 1}, {0, 0}, {0, 21}, {Integer.MIN_VALUE, Integer.MAX_VALUE}};
         for (int[] w : wrong) {
             Check.refused(pool, ARGUMENT, "P18 worst(" + w[0] + ", " + w[1] + ")", () -> pool.worst(w[0], w[1]));
