@@ -51,6 +51,15 @@ final class Check {
         due(call + " leaves the digest", pool.digest(), before);
     }
 
+    /** The call must answer, whatever it answers. */
+    static void allowed(String call, LongSupplier body) {
+        try {
+            body.getAsLong();
+        } catch (RuntimeException e) {
+            fault(call + " threw " + e + ", due is an answer");
+        }
+    }
+
     /** Whether HailPool did not throw this itself: it comes from the library, or bears the machine's own text. */
     static boolean isOfMachine(RuntimeException e) {
         StackTraceElement[] trace = e.getStackTrace();

@@ -2,20 +2,27 @@ import java.util.Arrays;
 import java.util.Random;
 import java.util.function.LongSupplier;
 
-/** Long runs of calls, the same ones each time, on HailPool and on Model: each answer and each digest must agree. */
+/**
+ * Long runs of calls, the same ones each time, on HailPool and on Model: each answer and each digest must agree. Digests
+ * and losses count as calls too, as what an object answers after its 512th call is free.
+ */
 public final class RandomRunsTest {
-    private static final int RUNS = 150;
-    private static final int CALLS = 512;
+    private static final int RUNS = 300;
+    private static final int MOST_CALLS = 512;
 
     private final Random random;
     private final HailPool pool = new HailPool();
     private final Model model = new Model();
     private final int wrongness;
     private final boolean isPoor;
+    // Some runs look at the digest seldom, so that they go farther with their calls.
+    private final int digestEvery;
+    private int used;
     private int faults;
 
     private RandomRunsTest(int seed) {
         random = new Random(seed);
+        digestEvery = seed % 4 < 2 ? 1 : 8;
         wrongness = seed % 3 == 0 ? 12 : 200;
         // A poor pool can't pay all, so that the order of the payments and the debts show.
         isPoor = seed % 2 == 0;
@@ -29,13 +36,23 @@ public final class RandomRunsTest {
     }
 
     private void run(int seed) {
-        for (int call = 0; call < CALLS && faults == 0; call++) {
+        // A round takes three calls at most.
+        for (int call = 0; used <= MOST_CALLS - 3 && faults == 0; call++) {
             int op = call < 12 ? new int[] {0, 1, 3, 8, 9, 1}[call % 6] : random.nextInt(24);
             int[] a = numbers(op, call);
             String text = "run " + seed + ", call " + call + ", op " + op + " " + Arrays.toString(a);
-            compare(text, answer(() -> ofPool(op, a), true), answer(() -> ofModel(op, a), false));
-            compare(text + ": digest", String.valueOf(pool.digest()), String.valueOf(model.digest()));
-            compare(text + ": loss", String.valueOf(pool.loss()), String.valueOf(model.loss()));
+            String want = answer(() -> ofModel(op, a), false);
+            compare(text, answer(() -> ofPool(op, a), true), want);
+            used++;
+            // What throws changes nothing: so there the digest is always looked at.
+            if (call % digestEvery == 0 || want.contains("Exception")) {
+                compare(text + ": digest", String.valueOf(pool.digest()), String.valueOf(model.digest()));
+                used++;
+            }
+            if (call % 8 == 0) {
+                compare(text + ": loss", String.valueOf(pool.loss()), String.valueOf(model.loss()));
+                used++;
+            }
         }
     }
 

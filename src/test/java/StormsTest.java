@@ -234,6 +234,33 @@ public final class StormsTest {
 
     // Promise 17
     private static void wouldBe() {
+        // One pool a number of what is told, as an object is used for 512 calls.
+        for (int what = 0; what <= 5; what++) {
+            HailPool pool = twoGrowersWithPolicies();
+            for (int s = 0; s < 30; s++) {
+                long before = pool.digest();
+                int told = pool.wouldBe(s % 7, 2 + s % 5, 1, s % 2, s % 4, 6 + s % 14, 6, what);
+                Check.due("P17 wouldBe leaves the digest", pool.digest(), before);
+                pool.storm(s % 7, 2 + s % 5, 1, s % 2, s % 4, 6 + s % 14, 6);
+                Check.due("P17 storm " + s + ", what " + what, told, pool.told(s, what));
+            }
+            pool.insure(0, 0, 100000, 10);
+            Check.refused(pool, STATE, "P17 no 31st storm", () -> pool.storm(0, 4, 1, 0, 5, 20, 20));
+            Check.unchanged(pool, "P17 it tells of a 31st",
+                    () -> pool.wouldBe(0, 4, 1, 0, 5, 20, 20, 2), 25 * 31 + 25 * 17 - pool.count(10));
+        }
+        HailPool pool = twoGrowersWithPolicies();
+        for (int[] w : WRONG_STORMS) {
+            Check.refused(pool, ARGUMENT, "P17 wouldBe(" + Arrays.toString(w) + ")",
+                    () -> pool.wouldBe(w[0], w[1], w[2], w[3], w[4], w[5], w[6], 0));
+            Check.refused(pool, ARGUMENT, "P17 wouldBe(" + Arrays.toString(w) + ") and a wrong what",
+                    () -> pool.wouldBe(w[0], w[1], w[2], w[3], w[4], w[5], w[6], 6));
+        }
+        Check.refused(pool, INDEX, "P17 what -1", () -> pool.wouldBe(0, 0, 0, 0, 0, 1, 1, -1));
+        Check.refused(pool, INDEX, "P17 what 6", () -> pool.wouldBe(0, 0, 0, 0, 0, 1, 1, 6));
+    }
+
+    private static HailPool twoGrowersWithPolicies() {
         HailPool pool = new HailPool();
         pool.addGrower(0);
         pool.addGrower(0);
@@ -244,30 +271,7 @@ public final class StormsTest {
         pool.addLayer(50, 100, 70);
         pool.fund(200);
         pool.setNet(1, true);
-        for (int s = 0; s < 30; s++) {
-            int[] told = new int[6];
-            for (int what = 0; what <= 5; what++) {
-                long before = pool.digest();
-                told[what] = pool.wouldBe(s % 7, 2 + s % 5, 1, s % 2, s % 4, 6 + s % 14, 6, what);
-                Check.due("P17 wouldBe leaves the digest", pool.digest(), before);
-            }
-            pool.storm(s % 7, 2 + s % 5, 1, s % 2, s % 4, 6 + s % 14, 6);
-            for (int what = 0; what <= 5; what++) {
-                Check.due("P17 storm " + s + ", what " + what, told[what], pool.told(s, what));
-            }
-        }
-        pool.insure(0, 0, 100000, 10);
-        Check.refused(pool, STATE, "P17 no 31st storm", () -> pool.storm(0, 4, 1, 0, 5, 20, 20));
-        Check.unchanged(pool, "P17 it tells of a 31st",
-                () -> pool.wouldBe(0, 4, 1, 0, 5, 20, 20, 2), 25 * 31 + 25 * 17 - pool.count(10));
-        for (int[] w : WRONG_STORMS) {
-            Check.refused(pool, ARGUMENT, "P17 wouldBe(" + Arrays.toString(w) + ")",
-                    () -> pool.wouldBe(w[0], w[1], w[2], w[3], w[4], w[5], w[6], 0));
-            Check.refused(pool, ARGUMENT, "P17 wouldBe(" + Arrays.toString(w) + ") and a wrong what",
-                    () -> pool.wouldBe(w[0], w[1], w[2], w[3], w[4], w[5], w[6], 6));
-        }
-        Check.refused(pool, INDEX, "P17 what -1", () -> pool.wouldBe(0, 0, 0, 0, 0, 1, 1, -1));
-        Check.refused(pool, INDEX, "P17 what 6", () -> pool.wouldBe(0, 0, 0, 0, 0, 1, 1, 6));
+        return pool;
     }
 
     // Promise 18
