@@ -1,5 +1,13 @@
-/** Pools that several tests begin with. */
+/** Pools that several tests begin with, and storms that are refused. */
 final class Land {
+    /** Storms with one number just beyond its bounds, and one far beyond. */
+    static final int[][] WRONG_STORMS = {
+        {-21, 0, 0, 0, 0, 1, 1}, {40, 0, 0, 0, 0, 1, 1}, {0, -21, 0, 0, 0, 1, 1}, {0, 40, 0, 0, 0, 1, 1},
+        {0, 0, -4, 0, 0, 1, 1}, {0, 0, 4, 0, 0, 1, 1}, {0, 0, 0, -4, 0, 1, 1}, {0, 0, 0, 4, 0, 1, 1},
+        {0, 0, 0, 0, -1, 1, 1}, {0, 0, 0, 0, 6, 1, 1}, {0, 0, 0, 0, 0, 0, 1}, {0, 0, 0, 0, 0, 21, 1},
+        {0, 0, 0, 0, 0, 1, 0}, {0, 0, 0, 0, 0, 1, 31}, {Integer.MAX_VALUE, 0, 0, 0, 0, 1, 1},
+    };
+
     private Land() {
     }
 

@@ -14,12 +14,6 @@ public final class OrderTest {
         {1, -1, 1, 3, 1, 1}, {15, 1, 6, 1, 1, 1}, {1, 15, 1, 6, 1, 1}, {1, 1, 1, 1, 0, 1}, {1, 1, 1, 1, 10, 1},
         {1, 1, 1, 1, 1, 0}, {1, 1, 1, 1, 1, 1001},
     };
-    private static final int[][] WRONG_STORMS = {
-        {-21, 0, 0, 0, 0, 1, 1}, {40, 0, 0, 0, 0, 1, 1}, {0, -21, 0, 0, 0, 1, 1}, {0, 40, 0, 0, 0, 1, 1},
-        {0, 0, -4, 0, 0, 1, 1}, {0, 0, 4, 0, 0, 1, 1}, {0, 0, 0, -4, 0, 1, 1}, {0, 0, 0, 4, 0, 1, 1},
-        {0, 0, 0, 0, -1, 1, 1}, {0, 0, 0, 0, 6, 1, 1}, {0, 0, 0, 0, 0, 0, 1}, {0, 0, 0, 0, 0, 21, 1},
-        {0, 0, 0, 0, 0, 1, 0}, {0, 0, 0, 0, 0, 1, 31},
-    };
 
     public static void main(String[] args) {
         sixGrowers();
@@ -196,7 +190,7 @@ public final class OrderTest {
         Check.due("P13 storms of this year", pool.count(5), 30);
         Check.refused(pool, STATE, "P15 the 31st", () -> Land.breakPane(pool, 5, 5));
         Check.due("P15 it broke nothing", pool.pane(5, 5), 1);
-        for (int[] w : WRONG_STORMS) {
+        for (int[] w : Land.WRONG_STORMS) {
             Check.refused(pool, ARGUMENT, "P15 the 31st, wrong " + Arrays.toString(w),
                     () -> pool.storm(w[0], w[1], w[2], w[3], w[4], w[5], w[6]));
         }
@@ -217,7 +211,7 @@ public final class OrderTest {
     private static void wouldBeOrder() {
         for (int what : new int[] {-1, 0, 5, 6, Integer.MIN_VALUE, Integer.MAX_VALUE}) {
             HailPool pool = Land.some();
-            for (int[] w : WRONG_STORMS) {
+            for (int[] w : Land.WRONG_STORMS) {
                 Check.refused(pool, ARGUMENT, "P17 wrong " + Arrays.toString(w) + ", what " + what,
                         () -> pool.wouldBe(w[0], w[1], w[2], w[3], w[4], w[5], w[6], what));
             }

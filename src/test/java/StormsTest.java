@@ -32,16 +32,9 @@ public final class StormsTest {
     }
 
     // Promise 15
-    private static final int[][] WRONG_STORMS = {
-        {-21, 0, 0, 0, 0, 1, 1}, {40, 0, 0, 0, 0, 1, 1}, {0, -21, 0, 0, 0, 1, 1}, {0, 40, 0, 0, 0, 1, 1},
-        {0, 0, -4, 0, 0, 1, 1}, {0, 0, 4, 0, 0, 1, 1}, {0, 0, 0, -4, 0, 1, 1}, {0, 0, 0, 4, 0, 1, 1},
-        {0, 0, 0, 0, -1, 1, 1}, {0, 0, 0, 0, 6, 1, 1}, {0, 0, 0, 0, 0, 0, 1}, {0, 0, 0, 0, 0, 21, 1},
-        {0, 0, 0, 0, 0, 1, 0}, {0, 0, 0, 0, 0, 1, 31}, {Integer.MAX_VALUE, 0, 0, 0, 0, 1, 1},
-    };
-
     private static void stormBounds() {
         HailPool pool = oneHouse(0, 0, 1, 1, 1, 1);
-        for (int[] w : WRONG_STORMS) {
+        for (int[] w : Land.WRONG_STORMS) {
             Check.refused(pool, ARGUMENT, "P15 storm(" + Arrays.toString(w) + ")",
                     () -> pool.storm(w[0], w[1], w[2], w[3], w[4], w[5], w[6]));
         }
@@ -250,7 +243,7 @@ public final class StormsTest {
                     () -> pool.wouldBe(0, 4, 1, 0, 5, 20, 20, 2), 25 * 31 + 25 * 17 - pool.count(10));
         }
         HailPool pool = twoGrowersWithPolicies();
-        for (int[] w : WRONG_STORMS) {
+        for (int[] w : Land.WRONG_STORMS) {
             Check.refused(pool, ARGUMENT, "P17 wouldBe(" + Arrays.toString(w) + ")",
                     () -> pool.wouldBe(w[0], w[1], w[2], w[3], w[4], w[5], w[6], 0));
             Check.refused(pool, ARGUMENT, "P17 wouldBe(" + Arrays.toString(w) + ") and a wrong what",
