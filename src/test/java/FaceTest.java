@@ -19,26 +19,26 @@ public final class FaceTest {
     private static final String STATE = "IllegalStateException";
 
     private static final List<String> FACE = List.of(
-            "int addGrower(1) " + ARGUMENT + " " + STATE,
-            "int build(7) " + INDEX + " " + ARGUMENT + " " + STATE,
-            "boolean setNet(2) " + INDEX,
-            "int insure(4) " + INDEX + " " + ARGUMENT,
-            "int mend(1) " + INDEX + " " + STATE,
-            "int grower(2) " + INDEX,
-            "int house(2) " + INDEX,
-            "int pane(2) " + INDEX,
-            "int fund(1) " + ARGUMENT + " " + STATE,
-            "int addLayer(3) " + ARGUMENT + " " + STATE,
-            "int layer(2) " + INDEX,
-            "int count(1) " + INDEX,
-            "int endYear(0)",
-            "int storm(7) " + ARGUMENT + " " + STATE,
-            "int told(2) " + INDEX,
-            "int wouldBe(8) " + ARGUMENT + " " + INDEX,
-            "int worst(2) " + ARGUMENT,
-            "int advise(3) " + ARGUMENT,
-            "double loss(0)",
-            "long digest(0)");
+            "int addGrower(int) " + ARGUMENT + " " + STATE,
+            "int build(int int int int int int int) " + INDEX + " " + ARGUMENT + " " + STATE,
+            "boolean setNet(int boolean) " + INDEX,
+            "int insure(int int int int) " + INDEX + " " + ARGUMENT,
+            "int mend(int) " + INDEX + " " + STATE,
+            "int grower(int int) " + INDEX,
+            "int house(int int) " + INDEX,
+            "int pane(int int) " + INDEX,
+            "int fund(int) " + ARGUMENT + " " + STATE,
+            "int addLayer(int int int) " + ARGUMENT + " " + STATE,
+            "int layer(int int) " + INDEX,
+            "int count(int) " + INDEX,
+            "int endYear()",
+            "int storm(int int int int int int int) " + ARGUMENT + " " + STATE,
+            "int told(int int) " + INDEX,
+            "int wouldBe(int int int int int int int int) " + ARGUMENT + " " + INDEX,
+            "int worst(int int) " + ARGUMENT,
+            "int advise(int int int) " + ARGUMENT,
+            "double loss()",
+            "long digest()");
 
     public static void main(String[] args) throws IOException {
         face();
@@ -49,7 +49,8 @@ public final class FaceTest {
 
     private static String shown(Method method) {
         StringBuilder text = new StringBuilder(method.getReturnType().getName());
-        text.append(' ').append(method.getName()).append('(').append(method.getParameterCount()).append(')');
+        String numbers = Arrays.stream(method.getParameterTypes()).map(Class::getName).collect(Collectors.joining(" "));
+        text.append(' ').append(method.getName()).append('(').append(numbers).append(')');
         for (Class<?> thrown : method.getExceptionTypes()) {
             text.append(' ').append(thrown.getSimpleName());
         }
@@ -71,6 +72,13 @@ public final class FaceTest {
         }
         if (!found.equals(new TreeSet<>(FACE))) {
             Check.fault("the face is " + found);
+        }
+        for (Method method : pool.getDeclaredMethods()) {
+            int kind = method.getModifiers() & ~(Modifier.PRIVATE | Modifier.STATIC);
+            boolean isOfFace = !Modifier.isPrivate(method.getModifiers());
+            if (isOfFace ? method.getModifiers() != Modifier.PUBLIC : kind != 0) {
+                Check.fault("rule 1: " + method + " is not just public, or private");
+            }
         }
         for (Class<?> inside : classes()) {
             for (Method method : inside.getDeclaredMethods()) {
